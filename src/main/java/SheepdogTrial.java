@@ -1034,7 +1034,6 @@ public final class SheepdogTrial {
         private static final int WALK = 6;
         private static final int FAULT = 7;
         private static final int RETIRE = 8;
-        private static final int KINDS = 9;
 
         // In a pattern, these stand for a number and for a single digit.
         private static final char NUMBER = '#';
@@ -1082,7 +1081,7 @@ public final class SheepdogTrial {
         // wrong, because up to there a program could continue.
         private boolean parseCommand(int position) {
             int farthest = position;
-            for (int kind = 0; kind < KINDS; kind++) {
+            for (int kind = START; kind <= RETIRE; kind++) {
                 if (matches(patternOf(kind), position)) {
                     kinds[commandCount] = kind;
                     return true;

@@ -13,6 +13,8 @@ final class CourseTest {
         legProperties();
         gateProperties();
         gateOnLine();
+        gateOnLineOfALaterLeg();
+        everySegmentOfASmallGrid();
     }
 
     private static void newObject() {
@@ -163,6 +165,11 @@ final class CourseTest {
         Check.isTrue("along the leg, overlapping", onLine(10, 10, 50, 10, 40, 10, 60, 10));
         Check.isTrue("along the leg, touching", onLine(10, 10, 50, 10, 50, 10, 60, 10));
         Check.isFalse("along the leg, apart", onLine(10, 10, 50, 10, 51, 10, 60, 10));
+        Check.isFalse("along a leg that goes up, apart", onLine(5, 0, 5, 2, 5, 5, 5, 9));
+        Check.isFalse("along a leg that goes up, apart below", onLine(5, 5, 5, 9, 5, 0, 5, 2));
+        Check.isFalse("along a slanting leg, apart", onLine(0, 0, 3, 3, 4, 4, 6, 6));
+        Check.isFalse("crossing only when drawn longer", onLine(0, 0, 9, 3, 5, 2, 6, 9));
+        Check.isFalse("a gate that ends before the leg", onLine(5, 2, 6, 9, 0, 0, 9, 3));
         Check.isFalse("parallel", onLine(10, 10, 50, 10, 10, 11, 50, 11));
         Check.isTrue("a slanting gate across", onLine(0, 0, 99, 99, 0, 99, 99, 0));
         Check.isFalse("a near miss", onLine(0, 0, 99, 98, 99, 99, 50, 50));
@@ -178,6 +185,42 @@ final class CourseTest {
         Check.isFalse("the start moves the leg", trial.isOnLine(0));
         Check.refused("isOnLine -1", Check.INDEX, () -> trial.isOnLine(-1));
         Check.refused("isOnLine 3", Check.INDEX, () -> trial.isOnLine(3));
+    }
+
+    private static void gateOnLineOfALaterLeg() {
+        SheepdogTrial trial = new SheepdogTrial();
+        trial.setStart(90, 90);
+        trial.addLeg(10, 20, 5);
+        trial.addLeg(50, 60, 5);
+        trial.addGate(1, 10, 20, 10, 10);
+        trial.addGate(1, 20, 29, 30, 41);
+        trial.addGate(1, 60, 10, 60, 99);
+        trial.addGate(0, 60, 10, 60, 99);
+        Check.isTrue("at the begin of leg 1", trial.isOnLine(0));
+        Check.isTrue("across leg 1", trial.isOnLine(1));
+        Check.isFalse("across leg 0, but of leg 1", trial.isOnLine(2));
+        Check.isTrue("across leg 0", trial.isOnLine(3));
+    }
+
+    // Places are numbered through a grid of 4 by 4 points; all legs and gates
+    // between them are compared with the model.
+    private static void everySegmentOfASmallGrid() {
+        for (int places = 0; places < 16 * 16; places++) {
+            for (int posts = 0; posts < 16 * 16; posts++) {
+                if (posts % 16 != posts / 16) {
+                    compareOnLine(places % 16, places / 16, posts % 16, posts / 16);
+                }
+            }
+        }
+    }
+
+    private static void compareOnLine(int begin, int end, int post1, int post2) {
+        Model model = new Model();
+        model.setStart(begin % 4, begin / 4);
+        model.addLeg(end % 4, end / 4, 5);
+        model.addGate(0, post1 % 4, post1 / 4, post2 % 4, post2 / 4);
+        Check.equal("grid " + begin + " " + end + " " + post1 + " " + post2, model.isOnLine(0),
+                onLine(begin % 4, begin / 4, end % 4, end / 4, post1 % 4, post1 / 4, post2 % 4, post2 / 4));
     }
 
     private static boolean onLine(int x1, int y1, int x2, int y2, int postX1, int postY1, int postX2, int postY2) {

@@ -6,6 +6,7 @@ import java.util.concurrent.Callable;
 final class ModelTest {
     private static final int OBJECTS = 300;
     private static final int CALLS = 300;
+    private static final int COURSE_CALLS = 24;
 
     private final Random random;
     private final String name;
@@ -17,7 +18,8 @@ final class ModelTest {
         random = new Random(seed);
         name = "seed " + seed;
         // Small grounds make the segments touch, overlap and shrink to points.
-        spread = seed % 3 == 0 ? 100 : seed % 3 == 1 ? 12 : 30;
+        int[] spreads = {100, 4, 12, 30};
+        spread = spreads[seed % 4];
     }
 
     static void run() {
@@ -55,8 +57,8 @@ final class ModelTest {
 
     private void makeCall(int call) {
         int kind = random.nextInt(100);
-        if (call < 14) {
-            makeCourse(kind);
+        if (call < COURSE_CALLS) {
+            makeCourse(call < 8 ? kind % 50 : kind);
         } else if (kind < 10) {
             compare("startRun", model::startRun, trial::startRun);
         } else if (kind < 55) {
@@ -64,7 +66,7 @@ final class ModelTest {
         } else if (kind < 60) {
             int points = number(0, 10);
             compare("fault " + points, () -> model.fault(points), () -> trial.fault(points));
-        } else if (kind < 63) {
+        } else if (kind < 61) {
             compare("retire", model::retire, trial::retire);
         } else if (kind < 70) {
             compare("undo", model::undo, trial::undo);
@@ -88,7 +90,7 @@ final class ModelTest {
             int points = number(0, 31);
             compare("addLeg", () -> model.addLeg(a[0], a[1], points), () -> trial.addLeg(a[0], a[1], points));
         } else if (kind < 85) {
-            int leg = number(-1, Math.max(0, model.legs()));
+            int leg = random.nextInt(10) == 0 ? number(-1, 6) : random.nextInt(Math.max(1, model.legs()));
             compare("addGate", () -> model.addGate(leg, a[0], a[1], b[0], b[1]),
                     () -> trial.addGate(leg, a[0], a[1], b[0], b[1]));
         } else if (kind < 93) {

@@ -84,5 +84,16 @@ final class OutputTest {
         hundred.fault(9);
         hundred.writeRanking();
         Check.equal("a score of 100", "0=100", Check.line(hundred));
+        hundred.fault(1);
+        hundred.writeRanking();
+        Check.equal("a score of 99", "0=99", Check.line(hundred));
+        SheepdogTrial ten = new SheepdogTrial();
+        ten.addLeg(50, 50, 10);
+        ten.startRun();
+        ten.writeRun(0);
+        Check.equal("a score of 10", "0:10=10*", Check.line(ten));
+        ten.fault(1);
+        ten.writeRun(0);
+        Check.equal("a score of 9", "0:9=9*", Check.line(ten));
     }
 }

@@ -58,6 +58,13 @@ final class ProgramTest {
         SheepdogTrial gates = Check.twoLegs();
         Check.equal("a gate on leg 1", 1, Check.execute(gates, "gate 1 1,2-3,4"));
         Check.equal("legOf", 1, gates.legOf(2));
+        Check.equal("a gate before another command", 2, Check.execute(gates, "gate 0 20,12-20,14;run"));
+        gates.walk(35, 10, 1);
+        Check.isFalse("the step is below its posts", gates.hasPassed(0, 3));
+        gates.walk(15, 16, 1);
+        Check.isFalse("the step is above its posts", gates.hasPassed(0, 3));
+        gates.walk(25, 10, 1);
+        Check.isTrue("the step is between its posts", gates.hasPassed(0, 3));
     }
 
     private static void manyCommands() {
@@ -77,18 +84,18 @@ final class ProgramTest {
     }
 
     private static void errorPositions() {
-        String[] prefixes = {"", "s", "start", "start ", "start 1", "start 123,", "l", "le", "li", "leg 1,2", "leg 1,2=",
-            "gate 0", "gate 0 1,2-3,", "limit ", "w", "wi", "wa", "width ", "r", "ru", "re", "retir", "walk 1,2+", "run;",
-            "fault ", "run;run;f", "limit 1;"};
+        String[] prefixes = {"", "s", "start", "start ", "start 1", "start 123,", "l", "le", "li", "leg 1,2",
+            "leg 1,2=", "gate 0", "gate 0 1,2-3,", "limit ", "w", "wi", "wa", "width ", "r", "ru", "re", "retir", "walk 1,2+",
+            "run;", "fault ", "run;run;f", "limit 1;"};
         for (String text : prefixes) {
             expectError(text, text.length());
         }
         // Before the bar, a program could continue.
-        String[] wrong = {"|x", "| run", "|Run", "|;", "run|x", "run|,", "run| ", "run|s", "run;|;", "run;| run", "re|n",
-            "l|ag", "le|x", "li|g", "wa|x", "wi|l", "start|1", "start |,", "start 123|4", "start 1|;", "start 1|=",
+        String[] wrong = {"|x", "| run", "|Run", "|;", "run|x", "run|,", "run| ", "run|s", "run;|;", "run;| run",
+            "re|n", "l|ag", "le|x", "li|g", "wa|x", "wi|l", "start|1", "start |,", "start 123|4", "start 1|;", "start 1|=",
             "start 1,2|,3", "start 1,2|-", "start |-1", "leg 1,2|;", "leg 1,2|+3", "leg 1,2=3|=", "gate |a", "gate 1|1",
-            "gate 0 |a", "gate 0 1,1|,", "gate 0 1,1-1|-", "gate 0 1,1-1,123|4", "gate 0 11|-1", "limit |x", "limit 600|0",
-            "width 5|x", "walk 1,2|=3", "walk 1,2+3|s", "fault |x", "fault 1|1", "retire|d", "run;walk 1,1+1;|x",
+            "gate 0 |a", "gate 0 1,1|,", "gate 0 1,1-1|-", "gate 0 1,1-1,123|4", "gate 0 11|-1", "limit |x",
+            "limit 600|0", "width 5|x", "walk 1,2|=3", "walk 1,2+3|s", "fault |x", "fault 1|1", "retire|d", "run;walk 1,1+1;|x",
             "run;wa|k", "limit |/", "limit |:", "limit |#", "fault |?"};
         for (String text : wrong) {
             int bar = text.indexOf('|');

@@ -72,6 +72,12 @@ final class RankingTest {
         Check.equal("bestOn 0", 3, trial.bestOn(0));
         Check.equal("bestOn 1", 0, trial.bestOn(1));
         trial.undo();
+        Check.equal("bestOn 0 without the last run", 3, trial.bestOn(0));
+        SheepdogTrial second = Check.twoLegs();
+        finish(second, 4, 0, 9);
+        finish(second, 3, 0, 9);
+        finish(second, 3, 0, 9);
+        Check.equal("the second of three is best", 1, second.bestOn(0));
         Check.refused("bestOn -1", Check.INDEX, () -> trial.bestOn(-1));
         Check.refused("bestOn 2", Check.INDEX, () -> trial.bestOn(2));
     }

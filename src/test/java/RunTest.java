@@ -5,6 +5,7 @@ final class RunTest {
 
     static void run() {
         startRun();
+        startRunInPlaceOfAnUndoneOne();
         fault();
         retire();
         presentRun();
@@ -32,6 +33,35 @@ final class RunTest {
         }
         Check.refused("a ninth run", Check.STATE, trial::startRun);
         Check.equal("eight runs", 8, trial.runs());
+    }
+
+    private static void startRunInPlaceOfAnUndoneOne() {
+        SheepdogTrial trial = Check.twoLegs();
+        trial.addGate(0, 1, 1, 2, 2);
+        trial.startRun();
+        trial.walk(29, 16, 9);
+        trial.walk(31, 10, 9);
+        trial.fault(1);
+        trial.walk(50, 10, 9);
+        trial.walk(44, 28, 9);
+        trial.walk(44, 32, 9);
+        Check.equal("gate loss before the undo", 5, trial.gateLoss(0));
+        for (int change = 0; change < 7; change++) {
+            trial.undo();
+        }
+        Check.equal("the run is undone", 0, trial.runs());
+        trial.startRun();
+        Check.equal("time", 0, trial.time(0));
+        Check.equal("score", 30, trial.score(0));
+        Check.equal("losses", 30, trial.scoreByLosses(0));
+        Check.isFalse("gate", trial.hasPassed(0, 0));
+        Check.isFalse("complete", trial.isComplete(0));
+        Check.equal("time loss before the undo", 30, trial.walk(1, 1, 999));
+        trial.undo();
+        trial.undo();
+        trial.startRun();
+        Check.equal("time loss", 0, trial.timeLoss(0));
+        Check.equal("score by losses", 30, trial.scoreByLosses(0));
     }
 
     private static void fault() {

@@ -7,6 +7,7 @@ final class StepTest {
         wrongArguments();
         gatesInTheirOrder();
         distanceFromTheLeg();
+        everyPlaceAroundSmallLegs();
         endOfTheLeg();
         orderWithinAStep();
         timeLimit();
@@ -94,12 +95,48 @@ final class StepTest {
         Check.equal("walking off the line", 1, trial.walk(38, 40, 1));
         Check.equal("walking 5 beside the line", 0, trial.walk(37, 39, 1));
         Check.equal("line loss", 1, trial.lineLoss(0));
+        SheepdogTrial second = new SheepdogTrial();
+        second.setStart(90, 10);
+        second.addLeg(20, 20, 30);
+        second.addLeg(60, 50, 30);
+        second.startRun();
+        second.walk(20, 20, 1);
+        Check.isFalse("5 beside leg 1", second.isOffLine(37, 39));
+        Check.isTrue("5.2 beside leg 1", second.isOffLine(38, 40));
+        Check.isFalse("5 before the begin of leg 1", second.isOffLine(16, 17));
+        Check.isTrue("on leg 0", second.isOffLine(55, 15));
         SheepdogTrial point = new SheepdogTrial();
         point.setTolerance(20);
         point.addLeg(0, 0, 30);
         point.startRun();
         Check.isFalse("20 from a leg of one point", point.isOffLine(12, 16));
         Check.isTrue("more than 20 from a leg of one point", point.isOffLine(13, 16));
+    }
+
+    // Legs between the points of a grid of 4 by 4 are compared with the model.
+    private static void everyPlaceAroundSmallLegs() {
+        for (int places = 0; places < 16 * 16; places++) {
+            SheepdogTrial trial = new SheepdogTrial();
+            Model model = new Model();
+            int tolerance = 1 + places % 3;
+            int beginX = 3 + places % 4;
+            int beginY = 3 + places / 4 % 4;
+            int endX = 3 + places / 16 % 4;
+            int endY = 3 + places / 64;
+            trial.setTolerance(tolerance);
+            model.setTolerance(tolerance);
+            trial.setStart(beginX, beginY);
+            model.setStart(beginX, beginY);
+            trial.addLeg(endX, endY, 5);
+            model.addLeg(endX, endY, 5);
+            trial.startRun();
+            model.startRun();
+            for (int place = 0; place < 100; place++) {
+                int x = place % 10;
+                int y = place / 10;
+                Check.equal("legs " + places + ", place " + x + "," + y, model.isOffLine(x, y), trial.isOffLine(x, y));
+            }
+        }
     }
 
     private static void endOfTheLeg() {
