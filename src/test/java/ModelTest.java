@@ -4,15 +4,20 @@ import java.util.concurrent.Callable;
 
 /** Makes the same calls on the class and on the model; the seeds are fixed, so every run makes the same calls. */
 final class ModelTest {
-    private static final int OBJECTS = 300;
-    private static final int CALLS = 300;
-    private static final int COURSE_CALLS = 24;
+    private static final int OBJECTS = 4000;
+
+    /** An object is used for at most 512 calls; the last ones look at one run and at the ranking. */
+    private static final int CALLS_OF_A_LIFE = 512;
+    private static final int CALLS_AT_THE_END = 100;
+    private static final int QUESTIONS_AFTER_A_CALL = 4;
 
     private final Random random;
     private final String name;
     private final int spread;
-    private SheepdogTrial trial = new SheepdogTrial();
-    private Model model = new Model();
+    private final int changesOfCourse;
+    private final SheepdogTrial trial = new SheepdogTrial();
+    private final Model model = new Model();
+    private int callsOfTrial = 0;
 
     private ModelTest(int seed) {
         random = new Random(seed);
@@ -20,20 +25,40 @@ final class ModelTest {
         // Small grounds make the segments touch, overlap and shrink to points.
         int[] spreads = {100, 4, 12, 30};
         spread = spreads[seed % 4];
+        changesOfCourse = number(4, 20);
     }
 
     static void run() {
-        for (int seed = 0; seed < OBJECTS; seed++) {
-            ModelTest test = new ModelTest(seed);
-            for (int call = 0; call < CALLS && Check.failures < 20; call++) {
-                test.makeCall(call);
-                test.compareAnswers(call);
-            }
+        for (int seed = 0; seed < OBJECTS && Check.failures < 20; seed++) {
+            new ModelTest(seed).live();
         }
     }
 
+    // A step makes at most some 60 calls, if it types and executes a program.
+    private void live() {
+        int step = 0;
+        while (callsOfTrial < CALLS_OF_A_LIFE - CALLS_AT_THE_END - 70) {
+            makeCall(step);
+            for (int question = 0; question < QUESTIONS_AFTER_A_CALL; question++) {
+                ask(random.nextInt(32));
+            }
+            step++;
+        }
+        compareRun(number(0, Math.max(0, model.runs() - 1)));
+        compare("writeRanking", model::writeRanking, trial::writeRanking);
+        compareLine();
+        Check.isTrue(name + ": few enough calls", callsOfTrial <= CALLS_OF_A_LIFE);
+    }
+
     private void compare(String call, Callable<?> due, Callable<?> got) {
+        callsOfTrial++;
         Check.equal(name + ": " + call, Check.outcome(due), Check.outcome(got));
+    }
+
+    private void compareLine() {
+        String line = Check.line(trial);
+        callsOfTrial += line.length() + 1;
+        Check.equal(name + ": the line", model.line(), line);
     }
 
     private int number(int from, int to) {
@@ -55,10 +80,10 @@ final class ModelTest {
         return new int[] {near[0] + number(-most, most), near[1] + number(-most, most)};
     }
 
-    private void makeCall(int call) {
+    private void makeCall(int step) {
         int kind = random.nextInt(100);
-        if (call < COURSE_CALLS) {
-            makeCourse(call < 8 ? kind % 50 : kind);
+        if (step < changesOfCourse) {
+            makeCourse(step < 6 ? kind % 50 : kind);
         } else if (kind < 10) {
             compare("startRun", model::startRun, trial::startRun);
         } else if (kind < 55) {
@@ -175,53 +200,70 @@ final class ModelTest {
         }
     }
 
-    private void compareAnswers(int call) {
-        compare("isRunning", model::isRunning, trial::isRunning);
-        compare("runs", model::runs, trial::runs);
-        compare("presentLeg", model::presentLeg, trial::presentLeg);
-        compare("flockX", model::flockX, trial::flockX);
-        compare("flockY", model::flockY, trial::flockY);
-        compare("nextGate", model::nextGate, trial::nextGate);
-        compare("errorPosition", model::errorPosition, trial::errorPosition);
-        compare("failedCommand", model::failedCommand, trial::failedCommand);
-        compare("tolerance", model::tolerance, trial::tolerance);
-        compare("timeLimit", model::timeLimit, trial::timeLimit);
+    private void ask(int kind) {
+        if (kind < 8) {
+            askOfThePresentRun(kind);
+        } else if (kind < 16) {
+            askOfTheCourse(kind, number(-1, model.legs()), number(-1, model.gates()));
+        } else if (kind < 28) {
+            askOfARun(kind, number(-1, model.runs()));
+        } else {
+            askOfTheLine(kind, number(-1, model.runs()));
+        }
+    }
+
+    private void askOfThePresentRun(int kind) {
         int[] to = place();
-        compare("gatesPassedTo", () -> model.gatesPassedTo(to[0], to[1]), () -> trial.gatesPassedTo(to[0], to[1]));
-        compare("isOffLine", () -> model.isOffLine(to[0], to[1]), () -> trial.isOffLine(to[0], to[1]));
-        compareLine();
-        if (call % 5 == 0) {
-            compareCourse();
-            for (int run = -1; run <= model.runs(); run++) {
-                compareRun(run);
-            }
+        switch (kind) {
+            case 0 -> compare("isRunning", model::isRunning, trial::isRunning);
+            case 1 -> compare("presentLeg", model::presentLeg, trial::presentLeg);
+            case 2 -> compare("flockX", model::flockX, trial::flockX);
+            case 3 -> compare("flockY", model::flockY, trial::flockY);
+            case 4 -> compare("nextGate", model::nextGate, trial::nextGate);
+            case 5 -> compare("isOffLine", () -> model.isOffLine(to[0], to[1]), () -> trial.isOffLine(to[0], to[1]));
+            default -> compare("gatesPassedTo", () -> model.gatesPassedTo(to[0], to[1]),
+                    () -> trial.gatesPassedTo(to[0], to[1]));
         }
     }
 
-    private void compareLine() {
-        int kind = random.nextInt(3);
-        int run = number(-1, model.runs());
-        if (kind == 0) {
-            compare("writeRun", () -> model.writeRun(run), () -> trial.writeRun(run));
-        } else if (kind == 1) {
-            compare("writeRanking", model::writeRanking, trial::writeRanking);
+    private void askOfTheCourse(int kind, int leg, int gate) {
+        switch (kind) {
+            case 8 -> compare("legs", model::legs, trial::legs);
+            case 9 -> compare("gates", model::gates, trial::gates);
+            case 10 -> compare("totalPoints", model::totalPoints, trial::totalPoints);
+            case 11 -> compare("tolerance", model::tolerance, trial::tolerance);
+            case 12 -> compare("timeLimit", model::timeLimit, trial::timeLimit);
+            case 13 -> compare("legPoints", () -> model.legPoints(leg), () -> trial.legPoints(leg));
+            case 14 -> compare("legOf", () -> model.legOf(gate), () -> trial.legOf(gate));
+            default -> compare("isOnLine", () -> model.isOnLine(gate), () -> trial.isOnLine(gate));
         }
-        Check.equal(name + ": the line", model.line(), Check.line(trial));
     }
 
-    private void compareCourse() {
-        compare("legs", model::legs, trial::legs);
-        compare("gates", model::gates, trial::gates);
-        compare("totalPoints", model::totalPoints, trial::totalPoints);
-        compare("meanScore", model::meanScore, trial::meanScore);
-        Check.isTrue(name + ": isConsistent", trial.isConsistent());
-        for (int i = -1; i <= 6; i++) {
-            int n = i;
-            compare("legPoints", () -> model.legPoints(n), () -> trial.legPoints(n));
-            compare("bestOn", () -> model.bestOn(n), () -> trial.bestOn(n));
-            compare("legOf", () -> model.legOf(n), () -> trial.legOf(n));
-            compare("isOnLine", () -> model.isOnLine(n), () -> trial.isOnLine(n));
-            compare("passRate", () -> model.passRate(n), () -> trial.passRate(n));
+    private void askOfARun(int kind, int run) {
+        int leg = number(-1, model.legs());
+        int gate = number(-1, model.gates());
+        switch (kind) {
+            case 16 -> compare("runs", model::runs, trial::runs);
+            case 17 -> compare("runAt", () -> model.runAt(run), () -> trial.runAt(run));
+            case 18 -> compare("rankOf", () -> model.rankOf(run), () -> trial.rankOf(run));
+            case 19 -> compare("bestOn", () -> model.bestOn(leg), () -> trial.bestOn(leg));
+            case 20 -> compare("meanScore", model::meanScore, trial::meanScore);
+            case 21 -> compare("passRate", () -> model.passRate(gate), () -> trial.passRate(gate));
+            case 22 -> compare("isConsistent", () -> true, trial::isConsistent);
+            case 23 -> compare("hasPassed", () -> model.hasPassed(run, gate), () -> trial.hasPassed(run, gate));
+            case 24 -> compare("pointsOn", () -> model.pointsOn(run, leg), () -> trial.pointsOn(run, leg));
+            case 25 -> compare("score", () -> model.score(run), () -> trial.score(run));
+            case 26 -> compare("scoreByLosses", () -> model.score(run), () -> trial.scoreByLosses(run));
+            default -> compare("time", () -> model.time(run), () -> trial.time(run));
+        }
+    }
+
+    private void askOfTheLine(int kind, int run) {
+        switch (kind) {
+            case 28 -> compare("writeRun", () -> model.writeRun(run), () -> trial.writeRun(run));
+            case 29 -> compare("writeRanking", model::writeRanking, trial::writeRanking);
+            case 30 -> compare("errorPosition", model::errorPosition, trial::errorPosition);
+            default -> compare("failedCommand", model::failedCommand, trial::failedCommand);
         }
     }
 
@@ -234,12 +276,13 @@ final class ModelTest {
         compare("gateLoss", () -> model.loss(run, 1), () -> trial.gateLoss(run));
         compare("faultLoss", () -> model.loss(run, 2), () -> trial.faultLoss(run));
         compare("timeLoss", () -> model.loss(run, 3), () -> trial.timeLoss(run));
-        compare("runAt", () -> model.runAt(run), () -> trial.runAt(run));
         compare("rankOf", () -> model.rankOf(run), () -> trial.rankOf(run));
         for (int i = -1; i <= 6; i++) {
             int n = i;
             compare("hasPassed", () -> model.hasPassed(run, n), () -> trial.hasPassed(run, n));
             compare("pointsOn", () -> model.pointsOn(run, n), () -> trial.pointsOn(run, n));
         }
+        compare("writeRun", () -> model.writeRun(run), () -> trial.writeRun(run));
+        compareLine();
     }
 }
