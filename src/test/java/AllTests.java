@@ -5,6 +5,7 @@ public final class AllTests {
     public static void main(String[] arguments) throws Exception {
         watch();
         FaceTest.run();
+        LanguageTest.run();
         CourseTest.run();
         StepTest.run();
         RunTest.run();
@@ -23,6 +24,7 @@ public final class AllTests {
         ProgramBoundaryTest.run();
         UndoBoundaryTest.run();
         AnyCallTest.run();
+        ReadmeTest.run();
         ModelTest.run();
         System.out.println(Check.checks + " checks, " + Check.failures + " failures");
         System.exit(Check.failures == 0 ? 0 : 1);

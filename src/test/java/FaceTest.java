@@ -2,14 +2,10 @@ import java.lang.reflect.Constructor;
 import java.lang.reflect.Member;
 import java.lang.reflect.Method;
 import java.lang.reflect.Modifier;
-import java.nio.file.Files;
-import java.nio.file.Path;
 import java.util.Set;
 import java.util.TreeSet;
-import java.util.regex.Matcher;
-import java.util.regex.Pattern;
 
-/** Compares the class with the document's face, and its text with some rules of LANGUAGE.md. */
+/** Compares the class with the document's face. */
 final class FaceTest {
     private static final String[] FACE = {
         "int setStart(int,int) IllegalArgumentException,IllegalStateException",
@@ -73,7 +69,6 @@ final class FaceTest {
         classIsPublicAndFinal();
         methodsAreThoseOfTheDocument();
         nothingElseIsVisible();
-        textKeepsToTheLanguage();
     }
 
     private static void classIsPublicAndFinal() {
@@ -128,20 +123,5 @@ final class FaceTest {
 
     private static void isPrivate(Member member) {
         Check.isTrue(member + " is private", Modifier.isPrivate(member.getModifiers()));
-    }
-
-    private static void textKeepsToTheLanguage() throws Exception {
-        String text = Files.readString(Path.of("src/main/java/SheepdogTrial.java"));
-        String code = text.replaceAll("/\\*(?s:.*?)\\*/|//.*", "");
-        String[] outside = {"->", "::", "\\bcatch\\b", "\\bfinally\\b", "\\bsynchronized\\b", "\\bassert\\b",
-            "\\bvar\\b", "\\binstanceof\\b", "\"\\s*\\+", "\\+\\s*\"", "\\bstatic \\{", "Exact\\b"};
-        for (String pattern : outside) {
-            Matcher matcher = Pattern.compile(pattern).matcher(code);
-            Check.isFalse("the source holds " + pattern, matcher.find());
-        }
-        Matcher imports = Pattern.compile("import (\\S+);").matcher(code);
-        while (imports.find()) {
-            Check.equal("an import", "java.util.NoSuchElementException", imports.group(1));
-        }
     }
 }
