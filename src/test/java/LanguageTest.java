@@ -10,7 +10,10 @@ import java.util.regex.Matcher;
 import java.util.regex.Pattern;
 import java.util.stream.Collectors;
 
-/** Compares the class with those rules of LANGUAGE.md that can be seen from its members or from its text. */
+/**
+ * Compares the class with those rules of LANGUAGE.md that can be seen from its members or from its text. Where the class
+ * needs less than a rule allows, only that is let through here; a class that comes to need more may widen it.
+ */
 final class LanguageTest {
     private static final String[] FORBIDDEN = {"->", "::", "\\bcatch\\b", "\\bfinally\\b", "\\bsynchronized\\b",
         "\\bassert\\b", "\\bvar\\b", "\\binstanceof\\b", "\"\\s*\\+", "\\+\\s*\"", "\\bstatic \\{", "Exact\\b",
